@@ -856,11 +856,11 @@ public final class DuskGates {
         }
 
         private static boolean isLetter(int b) {
-            return within(b, 'a', 'z');
+            return b >= 'a' && b <= 'z';
         }
 
         private static boolean isFigure(int b) {
-            return within(b, '0', '9');
+            return b >= '0' && b <= '9';
         }
     }
 

@@ -32,6 +32,16 @@ public final class CartsTest {
         CHECK.due("the 17th of no sheet", x.cart(6, 0), DuskGates.FULL);
         CHECK.due("the 17th of a bad sheet", x.cart(8, 0), DuskGates.BAD);
         CHECK.due("count(2)", x.count(2), 16);
+        Check.laws(x, "from 0 wheel 3;");
+        CHECK.due("owed by the last", x.owed(15, 8, 999), 12);
+        CHECK.due("least of the last", x.owed(15, DuskGates.NONE, 999), 0);
+        for (int k = 0; k < 60; k++) {
+            x.pass(k % 16, k / 16 & 1, 8, 999 - k, 1439 - k, k);
+        }
+        CHECK.due("agree(0)", x.agree(0), 60);
+        CHECK.due("agree(1)", x.agree(1), 0);
+        CHECK.due("agree(2)", x.agree(2), 4);
+        CHECK.due("amiss of all", x.amiss(DuskGates.NONE, 0, 999), 28 * 12 - (16 + 31) * 8 - (48 + 59) * 6);
     }
 
     private static void owed() {

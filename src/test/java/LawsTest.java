@@ -6,6 +6,7 @@ public final class LawsTest {
         feed();
         faults();
         reading();
+        fullTape();
         tooMany();
         holds();
         CHECK.end();
@@ -95,6 +96,22 @@ public final class LawsTest {
         CHECK.due("a sound text", Check.laws(x, "from 999 wheel 999;"), 4);
         CHECK.due("fault() stays the latest", x.fault(), 1);
         CHECK.due("an empty text", x.laws(), 4);
+    }
+
+    private static void fullTape() {
+        String[] ends = {"from 5 wheel 1;", "from 5 wheel 1", "from 5 wheel", "from 5 wheel 12345", "from 5 ", "from\n"};
+        int[] due = {1, -1000500, -1000500, -1000495, -1000500, -1000500};
+        for (int k = 0; k < ends.length; k++) {
+            DuskGates x = new DuskGates();
+            String text = " ".repeat(400 - ends[k].length()) + ends[k];
+            CHECK.due("feed of 400", Check.feed(x, text), 400);
+            CHECK.due("laws() of '" + ends[k] + "' at the end of a full tape", x.laws(), due[k]);
+        }
+        DuskGates x = new DuskGates();
+        CHECK.due("400 signs", Check.laws(x, ";".repeat(400)), -1000100);
+        CHECK.due("as many laws as fit", Check.laws(x, "from0ban0;".repeat(40)), -1000100 - 305);
+        CHECK.due("fault()", x.fault(), 3);
+        CHECK.due("thirty", Check.laws(x, "from0ban0;".repeat(30)), 30);
     }
 
     private static void tooMany() {

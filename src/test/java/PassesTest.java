@@ -70,6 +70,10 @@ public final class PassesTest {
         CHECK.due("the 17th", x.seal(0, 1), FULL);
         CHECK.due("the 17th of no sheet", x.seal(5, 1), FULL);
         CHECK.due("the 17th of a bad sheet", x.seal(-1, 1), BAD);
+        CHECK.due("count(5) of 16", x.count(5), 0);
+        CHECK.due("canbe(0) of 16, all of one town", x.canbe(0), 1);
+        CHECK.due("kind(15)", x.kind(15), PASS);
+        CHECK.due("ask(15, 1)", x.ask(15, 1), 0);
     }
 
     private static void canbe() {
