@@ -99,7 +99,8 @@ public final class LawsTest {
     }
 
     private static void fullTape() {
-        String[] ends = {"from 5 wheel 1;", "from 5 wheel 1", "from 5 wheel", "from 5 wheel 12345", "from 5 ", "from\n"};
+        String[] ends = {"from 5 wheel 1;", "from 5 wheel 1", "from 5 wheel", "from 5 wheel 12345", "from 5 ",
+            "from\n"};
         int[] due = {1, -1000500, -1000500, -1000495, -1000500, -1000500};
         for (int k = 0; k < ends.length; k++) {
             DuskGates x = new DuskGates();

@@ -367,7 +367,8 @@ final class Model {
         if (sheets[s] == null) return finding(1);
         if (lacks(s, i, 2 * n)) return finding(2);
         int[] it = items(s, i, 2 * n);
-        List<List<Integer>> coming = List.of(new ArrayList<>(), new ArrayList<>(), new ArrayList<>(), new ArrayList<>());
+        List<List<Integer>> coming = new ArrayList<>();
+        for (int g = 0; g < 4; g++) coming.add(new ArrayList<>());
         for (int a = 0; a < n; a++) {
             if (!in(it[2 * a], 0, 3) || !in(it[2 * a + 1], 0, 1439)) return BAD;
             coming.get(it[2 * a]).add(it[2 * a + 1]);
